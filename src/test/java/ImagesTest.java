@@ -6,6 +6,7 @@ public final class ImagesTest {
         refusals();
         allComesBack();
         anotherFuture();
+        anotherPast();
         whatStays();
         marksOfImages();
         readingsOfImages();
@@ -120,6 +121,55 @@ public final class ImagesTest {
         x.off(0);
         x.again(1);
         due.is("the later image counts", all(x), after);
+    }
+
+    /** Of two images that have nothing in common each comes back whole. */
+    private static void anotherPast() {
+        ShelfCart x = new ShelfCart();
+        x.image(0);
+        fillOne(x);
+        x.image(1);
+        String one = all(x);
+        x.again(0);
+        due.is("nothing is there", all(x), all(new ShelfCart()));
+        fillOther(x);
+        x.image(2);
+        String other = all(x);
+        x.again(1);
+        due.is("the one", all(x), one);
+        x.again(2);
+        due.is("the other one", all(x), other);
+    }
+
+    private static void fillOne(ShelfCart x) {
+        x.shelf(100, false);
+        x.shelf(200, true);
+        Due.marks(x, "A1|B2 v3");
+        x.book(2, 1, 10, 5);
+        x.book(1, 0, 20, 0);
+        x.stand(0, 0, 1);
+        x.stand(1, 1, 2);
+        x.dummy(1, 0, 3);
+        x.grow(0, 0, 7);
+        x.list(0, 0);
+        Due.reading(x, 0, 1, 1);
+        x.done();
+    }
+
+    private static void fillOther(ShelfCart x) {
+        x.shelf(300, true);
+        x.shelf(400, false);
+        Due.marks(x, "C3 v4|D4");
+        x.book(1, 1, 30, 0);
+        x.book(2, 0, 40, 6);
+        x.stand(0, 0, 4);
+        x.stand(1, 1, 5);
+        x.dummy(0, 1, 6);
+        x.grow(0, 1, 9);
+        x.list(1, 1);
+        Due.reading(x, 1, 0);
+        x.done();
+        Due.reading(x, 1, 1, 0);
     }
 
     private static void whatStays() {

@@ -304,8 +304,8 @@ public final class MarksTest {
     }
 
     private static void wayZero() {
-        sorted(new ShelfCart(), "A", "A A", "A A1", "A0", "A1", "A1 1", "A1.00001", "A1.05", "A1.1", "A1.10001", "A1.15", "A1.5", "A1.5 A", "A1.5 c1",
-            "A1 y1000", "A1 y2999", "A1 .A05", "A1 .A1", "A1 .A15", "A1 .A5", "A1 .B1", "A1 v1", "A1 v1 c1", "A1 v1 c2", "A1 v2", "A1 v10",
+        sorted(new ShelfCart(), "A", "A A", "A A1", "A0", "A1", "A1 1", "A1.00001", "A1.05", "A1.1", "A1.100001", "A1.100002", "A1.123455", "A1.123456", "A1.15", "A1.5", "A1.5 A", "A1.5 c1",
+            "A1 y1000", "A1 y2999", "A1 .A05", "A1 .A1", "A1 .A12345", "A1 .A12346", "A1 .A15", "A1 .A5", "A1 .B1", "A1 v1", "A1 v1 c1", "A1 v1 c2", "A1 v2", "A1 v10",
             "A1 c1", "A1 c2", "A1 c10", "A2", "A10", "A9999", "A .5", "A y1000", "A c1", "AA", "AAA", "AAB", "AB", "ABC", "AZ",
             "AZZ", "B", "BA", "Z", "ZZZ", "0", "5", "40", "40.1", "40 c1", ".1", "y1000", ".A1", "v1", "c1");
         ShelfCart x = new ShelfCart();

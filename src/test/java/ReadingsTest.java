@@ -53,6 +53,9 @@ public final class ReadingsTest {
         x.dummy(tall, 0, 11);
         due.yes("run(0, true)", x.run(0, true));
         due.is("by PLACES, DUMMIES too", Due.row(x), "7 3 5");
+        Due.standing(x, 6, 10, 0, 0);
+        x.run(0, true);
+        due.is("from PLACE 0 on", Due.row(x), "6 7 3 5");
         due.yes("run(0, false)", x.run(0, false));
         due.is("not whole", Due.row(x), "");
         due.yes("run(1, true)", x.run(1, true));
@@ -183,6 +186,9 @@ public final class ReadingsTest {
         Due.reading(x, 0, 2, 4, 3);
         due.is("not IN ORDER", x.where(5), -1);
         due.is("not IN ORDER", x.between(5, 0), -1);
+        Due.reading(x, 0, 4, 2, 5);
+        due.is("not IN ORDER at the beginning", x.where(5), -1);
+        Due.reading(x, 0, 2, 4, 3);
         x.move();
         due.is("IN ORDER now", x.where(5), 3);
     }

@@ -13,11 +13,15 @@ public final class ShiftingTest {
         thirty();
         works();
         worksTooWide();
+        worksJustNarrow();
         likeWorks();
         dummies();
         cutParts();
         planStays();
+        sixteenShelves();
         lifting();
+        liftWhereOthersStand();
+        liftAfterAnotherShift();
         liftRefused();
         due.end();
     }
@@ -202,6 +206,32 @@ public final class ShiftingTest {
         due.is("parted", planOf(x), "1 3");
     }
 
+    private static void worksJustNarrow() {
+        ShelfCart x = new ShelfCart();
+        x.shelf(100, false);
+        x.shelf(100, false);
+        Due.marks(x, "v1|c2|v3 c1|A1 v1|A1.5 v1|A1 c1");
+        Due.standing(x, 0, 60, 0, 0);
+        int last = Due.standing(x, 1, 40, 1, 0);
+        due.is("100, as the narrowest: not parted", x.shift(0, 1, 0, 100), 1);
+        due.is("both on the second one", planOf(x), "0 2");
+        x.off(last);
+        int wider = Due.standing(x, 2, 41, 1, 0);
+        due.is("101: parted", x.shift(0, 1, 0, 100), 0);
+        x.off(wider);
+        x.off(0);
+        int first = Due.standing(x, 3, 10, 0, 0);
+        int decimal = Due.standing(x, 4, 10, 1, 0);
+        due.is("A1 and A1.5 are two WORKS", x.shift(0, 1, 0, 100), 0);
+        due.is("A1 and A1.5 are two WORKS", planOf(x), "1 2");
+        x.off(decimal);
+        Due.standing(x, 5, 10, 1, 0);
+        due.is("A1 v1 and A1 c1 are one", x.shift(0, 1, 0, 100), 1);
+        due.is("A1 v1 and A1 c1 are one", planOf(x), "0 2");
+        x.off(first);
+        due.is("A1 c1 alone", x.shift(0, 1, 0, 100), 0);
+    }
+
     private static void likeWorks() {
         ShelfCart x = new ShelfCart();
         x.shelf(100, false);
@@ -302,6 +332,47 @@ public final class ShiftingTest {
         due.no("lift again", x.lift());
     }
 
+    private static void sixteenShelves() {
+        ShelfCart x = new ShelfCart();
+        for (int k = 0; k < 16; k++) {
+            x.shelf(100, false);
+            Due.mark(x, "A" + k);
+        }
+        for (int k = 0; k < 16; k++) {
+            Due.standing(x, k, 60, 0, k);
+        }
+        due.is("one on each", x.shift(0, 15, 0, 100), 15);
+        due.is("one on each", planOf(x), "1 2 3 4 5 6 7 8 9 10 11 12 13 14 15 16");
+        due.yes("lift", x.lift());
+        for (int k = 0; k < 16; k++) {
+            due.is("shelf " + k, Due.stacked(x, k), "0:" + k);
+        }
+        due.is("nothing changes now", x.shift(0, 15, 60, 60), 0);
+    }
+
+    private static void liftWhereOthersStand() {
+        ShelfCart x = floor(100, 100);
+        fill(x, 0, 0, 60, 60);
+        fill(x, 1, 2, 30);
+        due.is("shift", x.shift(0, 1, 0, 100), 1);
+        due.yes("lift", x.lift());
+        due.is("shelf 0", Due.stacked(x, 0), "0:0");
+        due.is("shelf 1", Due.stacked(x, 1), "0:1 1:2");
+        due.is("tell(2, 5)", x.tell(2, 5), 1);
+    }
+
+    private static void liftAfterAnotherShift() {
+        ShelfCart x = floor(100, 100, 100, 100);
+        fill(x, 0, 0, 60, 60);
+        fill(x, 2, 2, 90, 90, 90);
+        due.is("shift", x.shift(0, 1, 0, 100), 1);
+        due.is("there is none", x.shift(2, 3, 0, 100), -1);
+        due.yes("the first one is carried out", x.lift());
+        due.is("shelf 0", Due.stacked(x, 0), "0:0");
+        due.is("shelf 1", Due.stacked(x, 1), "0:1");
+        due.is("shelf 2", Due.stacked(x, 2), "0:2 1:3 2:4");
+    }
+
     private static void liftRefused() {
         ShelfCart x = floor(100, 100, 100);
         fill(x, 0, 0, 60, 60);
@@ -313,6 +384,10 @@ public final class ShiftingTest {
         due.is("none is at hand then", planOf(x), "");
         x.stand(1, 0, 1);
         due.no("nor later", x.lift());
+        x.shift(0, 1, 0, 100);
+        x.stand(0, 1, 0);
+        due.no("PLACE 0 is empty", x.lift());
+        x.stand(0, 0, 0);
         x.shift(0, 1, 0, 100);
         int other = x.book(0, 1, 60, 0);
         x.off(1);
