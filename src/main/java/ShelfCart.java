@@ -44,9 +44,8 @@ public final class ShelfCart {
     private static final int BLANK = ' ';
     private static final int[] TENS = {1, 10, 100, 1000, 10000, 100000, 1000000};
 
-    private final ByteRow tape;
-    private final ByteRow written;
     private final TextReader textReader;
+    private final ByteRow written;
     private int latestFault;
     private final State now;
     private final State[] images;
@@ -54,9 +53,8 @@ public final class ShelfCart {
     private final Shifter shifter;
 
     public ShelfCart() {
-        tape = new ByteRow(MAX_TAPE);
+        textReader = new TextReader();
         written = new ByteRow(MAX_TEXT);
-        textReader = new TextReader(tape);
         latestFault = NONE;
         now = new State();
         images = new State[MAX_IMAGES];
@@ -67,6 +65,7 @@ public final class ShelfCart {
     // ---- marks
 
     public int feed(int a, int b, int c, int d, int e) {
+        ByteRow tape = textReader.tape;
         if (tape.length + 20 > MAX_TAPE) {
             return NONE;
         }
@@ -80,11 +79,11 @@ public final class ShelfCart {
 
     public int mark(int n) {
         latestFault = NONE;
-        if (n < 0 || n > tape.length) {
+        if (n < 0 || n > textReader.tape.length) {
             return NO_SUCH_LENGTH;
         }
-        latestFault = faultOfText(n);
-        tape.length = 0;
+        latestFault = withinText(textReader.faultOf(n), n);
+        textReader.tape.length = 0;
         if (latestFault != NONE) {
             return NONE;
         }
@@ -96,12 +95,8 @@ public final class ShelfCart {
         return made == NONE ? TOO_MANY_MARKS : made;
     }
 
-    private int faultOfText(int n) {
-        int place = textReader.faultOf(n);
-        if (n > MAX_TEXT && (place == NONE || place > MAX_TEXT)) {
-            return MAX_TEXT;
-        }
-        return place;
+    private static int withinText(int place, int n) {
+        return n > MAX_TEXT && (place == NONE || place > MAX_TEXT) ? MAX_TEXT : place;
     }
 
     public int fault() {
@@ -414,11 +409,21 @@ public final class ShelfCart {
 
     public int full() {
         now.growths.countBooks(now.marks, now.stacks);
+        int first = NONE;
+        for (int shelf = 0; shelf < now.stacks.shelvesMade; shelf++) {
+            int year = firstFullYear(shelf);
+            if (year != NONE && (first == NONE || 100 * year + shelf < first)) {
+                first = 100 * year + shelf;
+            }
+        }
+        return first;
+    }
+
+    private int firstFullYear(int shelf) {
+        int room = now.stacks.roomNow(shelf);
         for (int year = 0; year <= MAX_YEARS; year++) {
-            for (int shelf = 0; shelf < now.stacks.shelvesMade; shelf++) {
-                if (now.stacks.roomNow(shelf) < now.growths.lossOf(shelf, year)) {
-                    return 100 * year + shelf;
-                }
+            if (room < now.growths.lossOf(shelf, year)) {
+                return year;
             }
         }
         return NONE;
@@ -540,7 +545,7 @@ public final class ShelfCart {
                 return Integer.compare(valueOf(a), valueOf(b));
             }
             if (way == 0) {
-                return Integer.compare(digitKey(a), digitKey(b));
+                return Integer.compare(digitKey(digitsOf(a), placesOf(a)), digitKey(digitsOf(b), placesOf(b)));
             }
             if (placesOf(a) != placesOf(b)) {
                 return Integer.compare(placesOf(a), placesOf(b));
@@ -557,9 +562,9 @@ public final class ShelfCart {
         }
 
         // Digits never end with 0, so zeros behind them keep unlike rows unlike and the shorter one ahead.
-        private static int digitKey(long part) {
-            int missing = TENS.length - 1 - placesOf(part);
-            return missing >= 0 && missing < TENS.length ? digitsOf(part) * TENS[missing] : 0;
+        private static int digitKey(int digits, int places) {
+            int missing = TENS.length - 1 - places;
+            return missing >= 0 && missing < TENS.length ? digits * TENS[missing] : 0;
         }
 
         static void spell(long part, ByteRow to) {
@@ -607,19 +612,15 @@ public final class ShelfCart {
         }
     }
 
-    /** Reads a TEXT off the tape, PART by PART; where it can't go on is the FAULT. */
+    /** Holds the tape and reads a TEXT off it, PART by PART; where it can't go on is the FAULT. */
     private static final class TextReader {
+        final ByteRow tape = new ByteRow(MAX_TAPE);
         final long[] parts = new long[MAX_PARTS];
         int length;
-        private final ByteRow tape;
         private int at;
         private int end;
         private int digits;
         private int places;
-
-        TextReader(ByteRow tape) {
-            this.tape = tape;
-        }
 
         int faultOf(int n) {
             at = 0;
@@ -646,7 +647,7 @@ public final class ShelfCart {
         }
 
         private int next() {
-            return at < end ? tape.byteAt(at) : NONE;
+            return at >= 0 && at < end && at < tape.bytes.length ? tape.bytes[at] : NONE;
         }
 
         private static boolean isLetter(int b) {
@@ -1330,7 +1331,7 @@ public final class ShelfCart {
         }
 
         private static boolean follows(int k, int j, State state) {
-            return state.compare(state.atHand.markAt(k), state.atHand.markAt(j)) <= 0;
+            return state.marks.compare(state.atHand.markAt(k), state.atHand.markAt(j), state.sortWay) <= 0;
         }
 
         // The least place from which the rest is still long enough gives the row whose places are least.
@@ -1379,6 +1380,7 @@ public final class ShelfCart {
 
         private int count;
         private final int[] floor = new int[MAX_THINGS];
+        private final int[] marks = new int[MAX_THINGS];
         private final int[] oldShelves = new int[MAX_THINGS];
         private final int[] widths = new int[MAX_THINGS];
         private final int[] mayEnd = new int[ROW];
@@ -1425,6 +1427,7 @@ public final class ShelfCart {
                     int thing = stacks.thingAt(shelf, place);
                     if (thing != NONE && count < MAX_THINGS) {
                         floor[count] = thing;
+                        marks[count] = stacks.markOf(thing);
                         oldShelves[count] = shelf;
                         widths[count] = stacks.widthTaken(thing);
                         count++;
@@ -1444,17 +1447,13 @@ public final class ShelfCart {
             int width = 0;
             for (int k = 0; k < count; k++) {
                 width += widths[k];
-                if (k + 1 == count || !isSameWork(state, k, k + 1)) {
+                if (k + 1 == count || !state.marks.areOfOneWork(marks[k], marks[k + 1])) {
                     markEnds(begin, k, width > widest);
                     begin = k + 1;
                     width = 0;
                 }
             }
             mayEnd[count] = 1;
-        }
-
-        private boolean isSameWork(State state, int a, int b) {
-            return state.marks.areOfOneWork(state.stacks.markOf(floor[a]), state.stacks.markOf(floor[b]));
         }
 
         private void markEnds(int begin, int lastOfWork, boolean mayBeParted) {
