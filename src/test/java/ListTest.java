@@ -179,6 +179,12 @@ public final class ListTest {
         x.list(0, 0);
         due.is("listed anew, it is not FOUND", foundOf(x, 0, 2), "");
         due.is("but GONE", foundOf(x, 0, 0), "0 1");
+        doneOf(x, 1, 0);
+        due.is("its being GONE was forgotten, too", foundOf(x, 0, 2), "");
+        x.forget(1);
+        doneOf(x, 1, 1);
+        x.list(1, 0);
+        due.is("forgotten before it was read", foundOf(x, 0, 2), "");
     }
 
     private static void toAnotherShelf() {
