@@ -1,6 +1,14 @@
+import java.io.IOException;
+import java.nio.file.Files;
+import java.nio.file.Path;
+import java.util.function.IntToLongFunction;
+
 /** Counts, for one test, the answers that are not the ones that are due. */
 final class Due {
+    private static final Path DOCUMENT = Path.of("../shared/DOC.md");
+
     private final String test;
+    private String document;
     private int asked;
     private int wrong;
 
@@ -30,6 +38,36 @@ final class Due {
 
     void no(String call, boolean got) {
         is(call, got ? 1 : 0, 0);
+    }
+
+    /** What follows tests this sentence of the document, which must stand there as it is told. */
+    void sentence(String words) {
+        yes("the document has '" + words + "'", text().contains(words));
+    }
+
+    private String text() {
+        if (document == null) {
+            try {
+                document = Files.readString(DOCUMENT).replaceAll("[\\s`]+", " ");
+            } catch (IOException notThere) {
+                document = "";
+            }
+        }
+        return document;
+    }
+
+    /** A call is taken from one number to another, and refused with one answer below, above and far away. */
+    void taken(String call, int least, int greatest, long refusal, IntToLongFunction ask) {
+        no(call + " takes " + least, ask.applyAsLong(least) == refusal);
+        no(call + " takes " + greatest, ask.applyAsLong(greatest) == refusal);
+        is(call + " below " + least, ask.applyAsLong(least - 1), refusal);
+        is(call + " above " + greatest, ask.applyAsLong(greatest + 1), refusal);
+        is(call + " of the least int", ask.applyAsLong(Integer.MIN_VALUE), refusal);
+        is(call + " of the greatest int", ask.applyAsLong(Integer.MAX_VALUE), refusal);
+    }
+
+    static long number(boolean yes) {
+        return yes ? 1 : 0;
     }
 
     void end() {
