@@ -48,6 +48,7 @@ public final class EdgesOfImagesTest {
         imagesStay();
         imagesAreNotTouched();
         twoLines();
+        lastOnes();
         fullOnes();
         due.end();
     }
@@ -284,6 +285,34 @@ public final class EdgesOfImagesTest {
             x.again(k);
         }
         return x;
+    }
+
+    /** MARKS 30 to 59 are made of other texts, and the last shelf is READ otherwise, than the image has it. */
+    private static void lastOnes() {
+        ShelfCart x = new ShelfCart();
+        for (int k = 0; k < 16; k++) {
+            x.shelf(100 + k, k == 14);
+        }
+        x.image(0);
+        marksOf(x, "A");
+        readOn(x, 15, 59, 58, 59);
+        readOn(x, 7, 3, 3);
+        x.image(1);
+        x.again(0);
+        marksOf(x, "B1.");
+        readOn(x, 15, 57, 57);
+        readOn(x, 7, 4, 4);
+        x.again(1);
+        due.is("the last MARK", Due.written(x, 59), "A60");
+        due.is("another one", Due.written(x, 30), "A31");
+        due.is("of the last shelf's READING", x.found(15, 1, 0), 59);
+        due.is("of another one's", x.found(7, 1, 0), 3);
+    }
+
+    private static void marksOf(ShelfCart x, String front) {
+        for (int k = 1; k <= 60; k++) {
+            Due.mark(x, front + (k % 10 == 0 && front.endsWith(".") ? 100 + k + 1 : k));
+        }
     }
 
     private static void fullOnes() {

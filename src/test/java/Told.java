@@ -141,6 +141,7 @@ final class Told {
         for (int k = 0; k < shelves; k++) {
             int shelf = k;
             tryOne("all MARKS on shelf " + k, x -> readOn(x, shelf) + " " + foundOnAll(x));
+            tryOne("shift of shelf " + k + ", which may be HIGH", x -> x.shift(shelf, shelf, 0, 100));
         }
         for (int k = 0; k < 4; k++) {
             int image = k;
